@@ -19,7 +19,6 @@ public final class CellRows2 {
     private static final long FIRST_CHARGE = 50000;
     private static final long FIRST_VOLTAGE = 3600;
     private static final long FIRST_WARMTH = 250;
-    private static final double FIRST_ESTIMATE = 0.5;
     private static final long BLED_BY_A_STEP = 5;
     private static final long BLEEDING_ABOVE_LEAST = 10;
 
@@ -62,7 +61,8 @@ public final class CellRows2 {
         limits = FIRST_LIMITS.clone();
         stuckContactors = new boolean[CONTACTORS];
         faults = new int[MOST_FAULTS];
-        turns = new Turns(FIRST_CHARGE);
+        turns = new Turns();
+        turns.follow(FIRST_CHARGE);
     }
 
     public int step(int cell, long current, long volt, long warm) throws ArrayIndexOutOfBoundsException {
@@ -80,8 +80,7 @@ public final class CellRows2 {
         }
         boolean beyond = isBeyond(stepped, current);
         stepped.beyondInRow = beyond ? stepped.beyondInRow + 1 : 0;
-        boolean faulty = noteFaultsOfStep(stepped);
-        if (faulty) {
+        if (noteFaultsOfStep(stepped)) {
             return 2;
         }
         return beyond ? 1 : 0;
@@ -107,6 +106,7 @@ public final class CellRows2 {
             throw new ArithmeticException("the capacity is 0");
         }
         long divisor = greatestCommonDivisor(asked.charge, capacity);
+        // With a capacity it is at least 1; looked at because nothing may divide unseen.
         if (divisor == 0) {
             return 0;
         }
@@ -147,8 +147,10 @@ public final class CellRows2 {
 
     public int weakest() {
         int found = 0;
-        for (int i = 1; i < cells.length; i++) {
-            if (cells[i].charge < cells[found].charge) {
+        long least = Long.MAX_VALUE;
+        for (int i = 0; i < cells.length; i++) {
+            if (cells[i].charge < least) {
+                least = cells[i].charge;
                 found = i;
             }
         }
@@ -261,25 +263,25 @@ public final class CellRows2 {
     }
 
     private long leastVoltage() {
-        long least = cells[0].voltage;
-        for (int i = 1; i < cells.length; i++) {
-            least = Math.min(least, cells[i].voltage);
+        long least = Long.MAX_VALUE;
+        for (Cell cell : cells) {
+            least = Math.min(least, cell.voltage);
         }
         return least;
     }
 
     private long greatestWarmth() {
-        long greatest = cells[0].warmth;
-        for (int i = 1; i < cells.length; i++) {
-            greatest = Math.max(greatest, cells[i].warmth);
+        long greatest = Long.MIN_VALUE;
+        for (Cell cell : cells) {
+            greatest = Math.max(greatest, cell.warmth);
         }
         return greatest;
     }
 
     private int bleedingCells() {
         int count = 0;
-        for (int i = 0; i < cells.length; i++) {
-            if (cells[i].bleeds) {
+        for (Cell cell : cells) {
+            if (cell.bleeds) {
                 count++;
             }
         }
@@ -301,7 +303,7 @@ public final class CellRows2 {
     /** What is known of one cell. */
     private static final class Cell {
         private long charge = FIRST_CHARGE;
-        private double estimate = FIRST_ESTIMATE;
+        private double estimate = 0.5;
         private long voltage = FIRST_VOLTAGE;
         private long warmth = FIRST_WARMTH;
         private int beyondInRow;
@@ -333,11 +335,6 @@ public final class CellRows2 {
         private int pointCount;
         private int cycleCount;
 
-        private Turns(long first) {
-            points[0] = first;
-            pointCount = 1;
-        }
-
         private void follow(long charge) {
             if (goesOn(charge)) {
                 points[pointCount - 1] = charge;
@@ -349,11 +346,14 @@ public final class CellRows2 {
         }
 
         private boolean goesOn(long charge) {
+            if (pointCount < 1) {
+                return false;
+            }
             long last = points[pointCount - 1];
             if (charge == last) {
                 return true;
             }
-            // Neighbours among the points always differ, so a single comparison tells the way.
+            // Neighbours among the points always differ, so one comparison tells the way.
             return pointCount > 1 && (charge > last) == (last > points[pointCount - 2]);
         }
 
