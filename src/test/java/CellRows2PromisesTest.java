@@ -1,10 +1,5 @@
 /** For each promise of the document: ordinary inputs, the edges that it names, and wrong inputs. */
-public final class CellRows2PromisesTest {
-
-    /** What a call answers in these tests when it throws the exception that the document names. */
-    private static final long THROWN = Long.MIN_VALUE + 77;
-
-    private static int wrong = 0;
+public final class CellRows2PromisesTest extends Checks {
 
     public static void main(String[] args) {
         promise1NewObject();
@@ -40,10 +35,7 @@ public final class CellRows2PromisesTest {
         promise12TheFiveHundredth();
         promise13Cool();
         promise14Fault();
-        System.out.println(wrong == 0 ? "all promises hold" : wrong + " answers are wrong");
-        if (wrong != 0) {
-            System.exit(1);
-        }
+        end("all promises hold");
     }
 
     private static void promise1NewObject() {
@@ -592,13 +584,6 @@ public final class CellRows2PromisesTest {
         due("12: behind the last of many", x.cycle(254, 0), -1);
     }
 
-    /** Ever smaller turns keep all their points: after 499 of them there are 500. */
-    private static void makeSmallerTurns(CellRows2 x, int turns) {
-        for (int k = 1; k <= turns; k++) {
-            currents(x, k % 2 == 1 ? 1000 - k : k - 1000);
-        }
-    }
-
     private static void promise12FiveHundredPoints() {
         CellRows2 x = new CellRows2(1);
         makeSmallerTurns(x, 499);
@@ -666,56 +651,5 @@ public final class CellRows2PromisesTest {
         }
         due("14: the last of many", many.fault(764), 2);
         due("14: behind the last of many", many.fault(765), 0);
-    }
-
-    private static void toPreCharge(CellRows2 x) {
-        due("to the first contactor", x.contactor(true), 1);
-        due("to the pre-charge", x.contactor(true), 2);
-    }
-
-    private static void steps(CellRows2 x, int count) {
-        for (int i = 0; i < count; i++) {
-            due("a quiet step", step(x, 0, 0, 3600, 250), 0);
-        }
-    }
-
-    private static void currents(CellRows2 x, long... currents) {
-        for (long current : currents) {
-            long answer = step(x, 0, current, 3600, 250);
-            due("a step by " + current + " is taken", answer >= 0 ? 1 : answer, 1);
-        }
-    }
-
-    private static long step(CellRows2 x, int cell, long current, long volt, long warm) {
-        try {
-            return x.step(cell, current, volt, warm);
-        } catch (ArrayIndexOutOfBoundsException e) {
-            return THROWN;
-        }
-    }
-
-    private static long whole(CellRows2 x, int cell, int side) {
-        try {
-            return x.whole(cell, side);
-        } catch (ArithmeticException e) {
-            return THROWN;
-        }
-    }
-
-    private static void due(String call, long got, long want) {
-        if (got != want) {
-            tell(call, String.valueOf(got), String.valueOf(want));
-        }
-    }
-
-    private static void due(String call, double got, double want) {
-        if (got != want) {
-            tell(call, String.valueOf(got), String.valueOf(want));
-        }
-    }
-
-    private static void tell(String call, String got, String want) {
-        wrong++;
-        System.out.println("promise " + call + ": answered " + got + ", due is " + want);
     }
 }
