@@ -1,14 +1,9 @@
-import java.lang.reflect.Constructor;
-import java.lang.reflect.Field;
-import java.lang.reflect.Method;
-import java.lang.reflect.Modifier;
 import java.math.BigInteger;
 import java.util.ArrayList;
 import java.util.Arrays;
 import java.util.List;
-import java.util.TreeSet;
 
-/** The class's face, and long mixed runs of calls compared with a model that is written plainly on the Java library. */
+/** Long mixed runs of calls, and long rows of turns, compared with a model that is written plainly on the Java library. */
 public final class CellRows2ModelTest {
 
     private static final int CALLS = 512;
@@ -17,42 +12,17 @@ public final class CellRows2ModelTest {
     private static long seed = 20260101;
 
     public static void main(String[] args) {
-        faceIsTheDocuments();
         for (int run = 0; run < 1500; run++) {
             compareRun(run);
         }
+        for (int row = 0; row < 200; row++) {
+            compareRow(row);
+        }
         callsBehindTheLastEnd();
-        System.out.println(wrong == 0 ? "face and model agree" : wrong + " differences");
+        System.out.println(wrong == 0 ? "class and model agree" : wrong + " differences");
         if (wrong != 0) {
             System.exit(1);
         }
-    }
-
-    private static void faceIsTheDocuments() {
-        TreeSet<String> want = new TreeSet<>(Arrays.asList(
-            "int step(int,long,long,long)", "long charge(int)", "double share(int)", "long whole(int,int)",
-            "int contactor(boolean)", "int bleed(int)", "int limit(int,long)", "int weakest()", "int insulate(long)",
-            "int stuck(int)", "int cycle(int,int)", "int cool()", "int fault(int)"));
-        TreeSet<String> got = new TreeSet<>();
-        for (Method m : CellRows2.class.getDeclaredMethods()) {
-            if (Modifier.isPrivate(m.getModifiers())) {
-                continue;
-            }
-            StringBuilder kinds = new StringBuilder();
-            for (Class<?> kind : m.getParameterTypes()) {
-                kinds.append(kinds.length() == 0 ? "" : ",").append(kind.getName());
-            }
-            got.add((Modifier.isPublic(m.getModifiers()) ? "" : "not public ") + m.getReturnType().getName() + " "
-                + m.getName() + "(" + kinds + ")");
-        }
-        same("face", got.toString(), want.toString());
-        for (Field f : CellRows2.class.getDeclaredFields()) {
-            same("field " + f.getName() + " is private", "" + Modifier.isPrivate(f.getModifiers()), "true");
-        }
-        Constructor<?>[] made = CellRows2.class.getDeclaredConstructors();
-        same("one constructor", made.length + Arrays.toString(made[0].getParameterTypes()), "1[int]");
-        int kind = CellRows2.class.getModifiers();
-        same("public and final", "" + (Modifier.isPublic(kind) && Modifier.isFinal(kind)), "true");
     }
 
     private static void compareRun(int run) {
@@ -69,6 +39,37 @@ public final class CellRows2ModelTest {
                 return;
             }
         }
+    }
+
+    /** Turns up to about 500 points, then steps of any size: mixed runs never keep so many points. */
+    private static void compareRow(int row) {
+        long[] given = new long[CALLS - 1];
+        int turns = 488 + below(12);
+        boolean growing = row % 2 == 0;
+        int way = row % 4 < 2 ? 1 : -1;
+        for (int k = 0; k < given.length; k++) {
+            long size = growing ? k + 1 : 600 - k;
+            given[k] = k < turns ? (k % 2 == 0 ? way : -way) * size : between(-700, 700) / (1 + below(4));
+        }
+        Model model = new Model(1);
+        for (long current : given) {
+            model.step(0, current, 3600, 250);
+        }
+        int count = (int) model.cycle(-1, 0);
+        compareCycle(row, given, model, -1, 0);
+        for (int i = 0; i <= count; i++) {
+            compareCycle(row, given, model, i, 0);
+            compareCycle(row, given, model, i, 1);
+        }
+    }
+
+    /** A new object for each question: behind 511 steps there is room for one call alone. */
+    private static void compareCycle(int row, long[] given, Model model, int i, int what) {
+        CellRows2 x = new CellRows2(1);
+        for (long current : given) {
+            x.step(0, current, 3600, 250);
+        }
+        same("row " + row + ", cycle(" + i + ", " + what + ")", "" + x.cycle(i, what), "" + model.cycle(i, what));
     }
 
     /** What later calls answer is free, but no call may throw by itself. */
